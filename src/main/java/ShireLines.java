@@ -35,6 +35,8 @@ public final class ShireLines {
     private static final int SHEETS = 4;
     private static final int CELLS = 36;
     private static final int NOBODY = 10;
+    /** The most units, and nobody. */
+    private static final int HOLDERS = 11;
     private static final int NOTHING = -1;
 
     private final Chronicle chronicle = new Chronicle();
@@ -226,9 +228,9 @@ public final class ShireLines {
         if (chronicle.isHundred(unit)) {
             return refuse(KIND);
         }
-        int former = charts[map].claims[cell];
-        charts[map].claims[cell] = unit;
-        return oneIf(former != NOTHING);
+        boolean claimed = Field.has(charts[map].claimedCells(), cell);
+        charts[map].setClaim(cell, unit);
+        return oneIf(claimed);
     }
 
     public long read(int map, int what) {
@@ -346,9 +348,8 @@ public final class ShireLines {
         if (sheet.isMissing()) {
             return refuse(MISSING);
         }
-        int[] claims = charts[map].claims;
         for (int cell = 0; cell < CELLS; cell++) {
-            claims[cell] = cell < sheet.size ? claimOf(sheet.numbers[cell]) : NOTHING;
+            charts[map].setClaim(cell, cell < sheet.size ? claimOf(sheet.numbers[cell]) : NOTHING);
         }
         return charts[map].size();
     }
@@ -500,6 +501,16 @@ public final class ShireLines {
             return 4 * Long.bitCount(set) - 2 * pairsWithin(set);
         }
 
+        /** The first cell of a set, or 36 if it has none. */
+        static int firstOf(long set) {
+            for (int cell = 0; cell < CELLS; cell++) {
+                if (has(set, cell)) {
+                    return cell;
+                }
+            }
+            return CELLS;
+        }
+
         static int pieces(long set) {
             int heaps = 0;
             long rest = set;
@@ -514,7 +525,9 @@ public final class ShireLines {
 
         private static long heapFrom(int cell, long set) {
             long heap = 1L << cell & set;
-            for (int step = 0; step < CELLS; step++) {
+            long former = 0;
+            for (int step = 0; step < CELLS && heap != former; step++) {
+                former = heap;
                 heap |= (right(heap) | left(heap) | down(heap) | up(heap)) & set;
             }
             return heap;
@@ -631,7 +644,7 @@ public final class ShireLines {
 
         int borderPairs() {
             int alike = 0;
-            for (int holder = 0; holder <= NOBODY; holder++) {
+            for (int holder = 0; holder < HOLDERS; holder++) {
                 alike += Field.pairsWithin(heldBy(holder));
             }
             return Field.PAIRS_BESIDE - alike;
@@ -779,10 +792,10 @@ public final class ShireLines {
             }
             Act turned = acts[act.first];
             Moment ahead = moments[turned.place];
-            long stillThere = turned.passed & now.heldBy(turned.receiver());
-            for (int holder = 0; holder <= NOBODY; holder++) {
-                if (holder == NOBODY || now.isThere(holder)) {
-                    long returned = stillThere & ahead.heldBy(holder);
+            long unmoved = turned.passed & now.heldBy(turned.receiver());
+            for (int holder = 0; holder < HOLDERS; holder++) {
+                long returned = unmoved & ahead.heldBy(holder);
+                if (returned != 0 && (holder == NOBODY || now.isThere(holder))) {
                     act.passed |= returned;
                     now.give(returned, holder);
                 }
@@ -855,52 +868,55 @@ public final class ShireLines {
         }
     }
 
-    /** A MAP: of each cell the unit that is claimed to hold it, NOBODY or NOTHING. */
+    /** A MAP: of each holder, nobody too, the set of cells that it is claimed to hold. */
     private static final class Chart {
-        private final int[] claims = new int[CELLS];
+        private final long[] claimed = new long[HOLDERS];
         private int year = FIRST_YEAR;
 
-        Chart() {
-            Arrays.fill(claims, NOTHING);
+        void setClaim(int cell, int holder) {
+            long bit = 1L << cell;
+            for (int other = 0; other < HOLDERS; other++) {
+                claimed[other] &= ~bit;
+            }
+            if (holder >= 0 && holder < HOLDERS) {
+                claimed[holder] |= bit;
+            }
+        }
+
+        long claimedCells() {
+            long set = 0;
+            for (int holder = 0; holder < HOLDERS; holder++) {
+                set |= claimed[holder];
+            }
+            return set;
         }
 
         int size() {
-            int size = 0;
-            for (int cell = 0; cell < CELLS; cell++) {
-                if (claims[cell] != NOTHING) {
-                    size++;
-                }
+            return Long.bitCount(claimedCells());
+        }
+
+        private long rightCells(Moment moment) {
+            long right = 0;
+            for (int holder = 0; holder < HOLDERS; holder++) {
+                right |= claimed[holder] & moment.heldBy(holder);
             }
-            return size;
+            return right;
         }
 
         int agreement(Moment moment) {
-            int agreed = 0;
-            for (int cell = 0; cell < CELLS; cell++) {
-                if (claims[cell] == moment.holderOf(cell)) {
-                    agreed++;
-                }
-            }
-            return agreed;
+            return Long.bitCount(rightCells(moment));
         }
 
         int firstWrong(Moment moment) {
-            for (int cell = 0; cell < CELLS; cell++) {
-                if (claims[cell] != NOTHING && claims[cell] != moment.holderOf(cell)) {
-                    return cell;
-                }
-            }
-            return CELLS;
+            return Field.firstOf(claimedCells() & ~rightCells(moment));
         }
 
         int firstQuarrel(Chart other) {
-            for (int cell = 0; cell < CELLS; cell++) {
-                boolean bothClaim = claims[cell] != NOTHING && other.claims[cell] != NOTHING;
-                if (bothClaim && claims[cell] != other.claims[cell]) {
-                    return cell;
-                }
+            long alike = 0;
+            for (int holder = 0; holder < HOLDERS; holder++) {
+                alike |= claimed[holder] & other.claimed[holder];
             }
-            return CELLS;
+            return Field.firstOf(claimedCells() & other.claimedCells() & ~alike);
         }
     }
 

@@ -271,6 +271,14 @@ public final class AtAYearTest {
         DUE.is("forth and back in one year", x.changes(0, 1101), Due.NONE);
         x.move(0, 1, 1300, Due.set(1));
         DUE.is("a true change", x.changes(0, 1101), 1300);
+        x.move(1, 0, 1301, Due.set(1));
+        x.move(0, 1, 1302, Due.set(0));
+        DUE.is("year upon year: lost", x.changes(0, 1300), 1300);
+        DUE.is("year upon year: won", x.changes(0, 1301), 1301);
+        DUE.is("year upon year: lost again", x.changes(0, 1302), 1302);
+        DUE.is("and no more", x.changes(0, 1303), Due.NONE);
+        x.back(4, 1301);
+        DUE.is("no change by a VOID act of a year", x.changes(0, 1301), 1301);
     }
 
     private static void changesOfHundreds() {

@@ -46,6 +46,7 @@ public final class CountsTest {
         ShireLines x = Due.desk();
         DUE.is("none", x.people(1000), 0);
         x.count(0, 1100, 7);
+        DUE.is("one count", x.people(1100), 7);
         x.count(1, 1100, 30);
         x.count(0, 1200, 500);
         x.count(0, 1100, 9);

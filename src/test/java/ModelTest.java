@@ -11,7 +11,7 @@ public final class ModelTest {
         "sheet", "put", "copy", "lay", "told"};
     /** How often each call is made, beside the others. */
     private static final int[] OFTEN = {
-        4, 2, 12, 14, 6, 8, 8, 14, 4, 6, 4, 6, 6, 4, 8, 3, 6, 2, 10, 8, 5, 3, 4, 8, 2, 2, 6, 3, 2, 5};
+        4, 2, 12, 14, 6, 8, 8, 14, 4, 6, 4, 6, 6, 4, 8, 3, 6, 2, 10, 8, 5, 3, 8, 8, 2, 2, 6, 3, 2, 8};
 
     private static final Due DUE = new Due();
 

@@ -12,6 +12,7 @@ public final class SheetsTest {
         copyWithin();
         told();
         toldFindings();
+        toldFullAndOrder();
         DUE.end();
     }
 
@@ -185,6 +186,28 @@ public final class SheetsTest {
         }
         DUE.is("each of the thirty answered a finding", seen, 30);
         DUE.is("and each is counted", x.told(4), 30);
+    }
+
+    private static void toldFullAndOrder() {
+        ShireLines x = Due.desk();
+        for (int i = 0; i < 30; i++) {
+            x.unit(Due.UNIT);
+            x.join(0, 3, 1000);
+            x.count(0, 1000, i);
+        }
+        x.sheet(0, 8, 4);
+        x.sheet(1, 16, 4);
+        DUE.is("units 26, counts 10", x.told(4), 36);
+        long[] findings = {
+            x.as(9, 4), x.found(0, 999, 0), x.found(0, 1000, 0), x.move(0, 1, 999, 0), x.move(0, 3, 1000, 0),
+            x.move(0, 1, 1000, 0), x.swallow(0, 1, 999), x.swallow(0, 3, 1000), x.swallow(0, 1, 1000), x.back(0, 999),
+            x.back(0, 1000), x.join(0, 3, 999), x.join(0, 3, 1000), x.act(0, 5), x.who(0, 999), x.there(0, 999),
+            x.cells(0, 999), x.shape(10, 1000, 0), x.under(0, 999), x.under(3, 1000), x.led(0, 1, 999),
+            x.led(0, 0, 1000), x.changes(0, 999), x.claim(0, 36, 0), x.read(4, 0), x.quarrel(0, 4),
+            x.count(0, 1000, -1), x.sheet(0, 9, 0), x.sheet(0, 8, 37), x.put(4, 0, 0), x.put(0, 4, 0),
+            x.copy(0, 0, 4, 0, 0), x.copy(0, 0, 1, 0, 0), x.copy(0, 0, 0, 0, 5), x.lay(0, 4), x.told(-1),
+        };
+        DUE.is("all of these, too", x.told(4), 36 + findings.length);
     }
 
     /** Lays the sheet on map 3 and asks what it claims of the first cells. */
