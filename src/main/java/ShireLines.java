@@ -83,15 +83,20 @@ public final class ShireLines {
         if (chronicle.isHundred(unit)) {
             return refuse(KIND);
         }
-        return tellAct(FOUND, unit, NOBODY, year, cells);
+        return counted(chronicle.tell(FOUND, unit, NOBODY, year, cells));
     }
 
     public long move(int from, int to, int year, long cells) {
-        return tellPassing(MOVE, from, to, year, cells);
+        if (!Field.isSet(cells)) {
+            return refuse(BEYOND);
+        }
+        long finding = pairFinding(from, to, year);
+        return finding < LOW ? refuse(finding) : counted(chronicle.tell(MOVE, from, to, year, cells));
     }
 
     public long swallow(int unit, int by, int year) {
-        return tellPassing(SWALLOW, unit, by, year, Field.ALL);
+        long finding = pairFinding(unit, by, year);
+        return finding < LOW ? refuse(finding) : counted(chronicle.tell(SWALLOW, unit, by, year, 0L));
     }
 
     public long back(int act, int year) {
@@ -101,7 +106,7 @@ public final class ShireLines {
         if (!chronicle.acts[act].canBeTurnedBack()) {
             return refuse(KIND);
         }
-        return tellAct(BACK, act, NOBODY, year, 0L);
+        return counted(chronicle.tell(BACK, act, NOBODY, year, 0L));
     }
 
     public long join(int unit, int hundred, int year) {
@@ -111,7 +116,7 @@ public final class ShireLines {
         if (chronicle.isHundred(unit) || !chronicle.isHundred(hundred)) {
             return refuse(KIND);
         }
-        return tellAct(JOIN, unit, hundred, year, 0L);
+        return counted(chronicle.tell(JOIN, unit, hundred, year, 0L));
     }
 
     public long act(int act, int what) {
@@ -372,24 +377,19 @@ public final class ShireLines {
         return finding;
     }
 
-    private long tellPassing(int kind, int from, int to, int year, long cells) {
-        if (!chronicle.hasUnit(from) || !chronicle.hasUnit(to) || !isYear(year) || !Field.isSet(cells)) {
-            return refuse(BEYOND);
-        }
-        if (chronicle.isHundred(from) || chronicle.isHundred(to)) {
-            return refuse(KIND);
-        }
-        if (from == to) {
-            return refuse(SIZE);
-        }
-        return tellAct(kind, from, to, year, cells);
+    private long counted(long answer) {
+        return answer < LOW ? refuse(answer) : answer;
     }
 
-    private long tellAct(int kind, int first, int second, int year, long cells) {
-        if (chronicle.hasAllActs()) {
-            return refuse(FULL);
+    /** What two units that pass cells on in a year are refused for, or 0. */
+    private long pairFinding(int from, int to, int year) {
+        if (!chronicle.hasUnit(from) || !chronicle.hasUnit(to) || !isYear(year)) {
+            return BEYOND;
         }
-        return chronicle.tell(kind, first, second, year, cells);
+        if (chronicle.isHundred(from) || chronicle.isHundred(to)) {
+            return KIND;
+        }
+        return from == to ? SIZE : 0;
     }
 
     /** Between two acts nothing changes, so only the first year and the years of acts can be the first best one. */
@@ -705,9 +705,10 @@ public final class ShireLines {
             return told >= MOST_ACTS;
         }
 
-        int tell(int kind, int first, int second, int year, long cells) {
+        /** The new act's number, or FULL. */
+        long tell(int kind, int first, int second, int year, long cells) {
             if (hasAllActs()) {
-                return NOTHING;
+                return FULL;
             }
             int number = told;
             Act act = acts[number];

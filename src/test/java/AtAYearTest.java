@@ -117,7 +117,7 @@ public final class AtAYearTest {
         shapeIs(Due.FIELD, 36, 1, 24);
         shapeIs(Due.FIELD & ~Due.set(14), 35, 1, 28);
         shapeIs(Due.set(0, 1, 2, 3, 4, 5, 11, 17, 16, 15, 14, 13, 12, 18, 24, 25, 26, 27, 28, 29, 35), 21, 1, 44);
-        shapeIs(Due.set(0, 2, 4, 7, 9, 11, 12, 14, 16, 19, 21, 23, 24, 26, 28, 31, 33, 35), 18, 18, 72);
+        shapeIs(Due.BOARD, 18, 18, 72);
         shapeIs(Due.set(5, 10, 11, 30, 31, 24), 6, 2, 16);
     }
 
@@ -228,7 +228,7 @@ public final class AtAYearTest {
         DUE.is("the year ahead", x.borders(1099), 0);
         x.found(1, 1200, Due.set(14));
         DUE.is("and one in the midst", x.borders(1200), 6);
-        x.found(2, 1300, Due.set(0, 2, 4, 7, 9, 11, 12, 14, 16, 19, 21, 23, 24, 26, 28, 31, 33, 35));
+        x.found(2, 1300, Due.BOARD);
         DUE.is("a board", x.borders(1300), 60);
         x.found(4, 1400, Due.FIELD);
         DUE.is("one holds all", x.borders(1400), 0);

@@ -13,6 +13,8 @@ final class Due {
     static final int HUNDRED = 3;
 
     static final long FIELD = (1L << 36) - 1;
+    /** Every other cell, as on a chess board. */
+    static final long BOARD = set(0, 2, 4, 7, 9, 11, 12, 14, 16, 19, 21, 23, 24, 26, 28, 31, 33, 35);
 
     private int asked;
     private int wrong;

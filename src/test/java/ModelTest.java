@@ -5,10 +5,6 @@ import java.util.Random;
 public final class ModelTest {
     private static final int RUNS = 400;
     private static final int CALLS = 511;
-    private static final String[] NAMES = {
-        "unit", "as", "found", "move", "swallow", "back", "join", "act", "untell", "who", "there", "cells", "shape",
-        "under", "led", "borders", "changes", "map", "claim", "read", "best", "quarrel", "count", "carried", "people",
-        "sheet", "put", "copy", "lay", "told"};
     /** How often each call is made, beside the others. */
     private static final int[] OFTEN = {
         4, 2, 12, 14, 6, 8, 8, 14, 4, 6, 4, 6, 6, 4, 8, 3, 6, 2, 10, 8, 5, 3, 8, 8, 2, 2, 6, 3, 2, 8};
@@ -30,29 +26,29 @@ public final class ModelTest {
     }
 
     public static void main(String[] args) {
-        int[] made = new int[NAMES.length];
-        int[] fine = new int[NAMES.length];
+        int[] often = new int[OFTEN.length];
+        int[] fine = new int[OFTEN.length];
         for (int seed = 0; seed < RUNS && !DUE.hasWrong(); seed++) {
-            new ModelTest(seed).run(seed, made, fine);
+            new ModelTest(seed).run(seed, often, fine);
         }
-        for (int call = 0; call < NAMES.length; call++) {
-            DUE.isTrue(NAMES[call] + " was made and often answered no finding", made[call] > 500 && fine[call] > 100);
+        for (int call = 0; call < OFTEN.length; call++) {
+            DUE.isTrue(Call.NAMES.get(call) + " was made, and often answered no finding",
+                often[call] > 500 && fine[call] > 100);
         }
         DUE.end();
     }
 
-    private void run(int seed, int[] made, int[] fine) {
+    private void run(int seed, int[] often, int[] fine) {
         for (int i = 0; i < CALLS; i++) {
             int call = i < 5 ? 0 : drawCall();
             int[] p = arguments(call);
             if (i < 5 && seed % 5 != 0) {
                 p[0] = i == 3 ? 3 : i % 3;
             }
-            long cells = set();
-            long got = ask(call, p, cells);
-            long want = model.call(call, p, cells);
-            DUE.is("seed " + seed + ", call " + i + ": " + NAMES[call] + Arrays.toString(p) + " " + cells, got, want);
-            made[call]++;
+            Call made = new Call(call, p, set());
+            long want = made.on(model);
+            DUE.is("seed " + seed + ", call " + i + ": " + made, made.on(desk), want);
+            often[call]++;
             fine[call] += want > -1000000000000000000L ? 1 : 0;
         }
     }
@@ -138,47 +134,6 @@ public final class ModelTest {
             case 27: return new int[] {number(3), number(10), number(3), number(10), number(10)};
             case 28: return new int[] {number(3), number(3)};
             default: return new int[] {number(4)};
-        }
-    }
-
-    private long ask(int call, int[] p, long cells) {
-        switch (call) {
-            case 0: return desk.unit(p[0]);
-            case 1: return desk.as(p[0], p[1]);
-            case 2: return desk.found(p[0], p[1], cells);
-            case 3: return desk.move(p[0], p[1], p[2], cells);
-            case 4: return desk.swallow(p[0], p[1], p[2]);
-            case 5: return desk.back(p[0], p[1]);
-            case 6: return desk.join(p[0], p[1], p[2]);
-            case 7: return desk.act(p[0], p[1]);
-            case 8: return desk.untell();
-            case 9: return desk.who(p[0], p[1]);
-            case 10: return desk.there(p[0], p[1]);
-            case 11: return desk.cells(p[0], p[1]);
-            case 12: return desk.shape(p[0], p[1], p[2]);
-            case 13: return desk.under(p[0], p[1]);
-            case 14: return desk.led(p[0], p[1], p[2]);
-            case 15: return desk.borders(p[0]);
-            default: return askMore(call, p);
-        }
-    }
-
-    private long askMore(int call, int[] p) {
-        switch (call) {
-            case 16: return desk.changes(p[0], p[1]);
-            case 17: return desk.map(p[0], p[1]);
-            case 18: return desk.claim(p[0], p[1], p[2]);
-            case 19: return desk.read(p[0], p[1]);
-            case 20: return desk.best(p[0], p[1], p[2]);
-            case 21: return desk.quarrel(p[0], p[1]);
-            case 22: return desk.count(p[0], p[1], p[2]);
-            case 23: return desk.carried(p[0], p[1], p[2], p[3] != 0);
-            case 24: return desk.people(p[0]);
-            case 25: return desk.sheet(p[0], p[1], p[2]);
-            case 26: return desk.put(p[0], p[1], p[2]);
-            case 27: return desk.copy(p[0], p[1], p[2], p[3], p[4]);
-            case 28: return desk.lay(p[0], p[1]);
-            default: return desk.told(p[0]);
         }
     }
 }
