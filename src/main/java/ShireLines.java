@@ -728,7 +728,7 @@ public final class ShireLines {
         void dropLatest() {
             if (told > 0) {
                 told--;
-                int place = acts[told].place;
+                int place = doneUpTo(acts[told].year);
                 System.arraycopy(order, place + 1, order, place, told - place);
                 redoFrom(place);
             }
@@ -737,9 +737,9 @@ public final class ShireLines {
         /** A BACK comes behind its act in the order, so what stands ahead of a place never hangs on what is behind. */
         private void redoFrom(int place) {
             for (int at = place; at < told; at++) {
-                Act act = acts[order[at]];
-                Moment now = moments[at + 1];
-                now.becomeLike(moments[at]);
+                Act act = actAt(at);
+                Moment now = momentBehind(at + 1);
+                now.becomeLike(momentBehind(at));
                 act.place = at;
                 act.passed = 0;
                 act.isVoid = !perform(act, now);
@@ -792,7 +792,7 @@ public final class ShireLines {
                 return false;
             }
             Act turned = acts[act.first];
-            Moment ahead = moments[turned.place];
+            Moment ahead = momentBehind(turned.place);
             long unmoved = turned.passed & now.heldBy(turned.receiver());
             for (int holder = 0; holder < HOLDERS; holder++) {
                 long returned = unmoved & ahead.heldBy(holder);
@@ -823,11 +823,17 @@ public final class ShireLines {
         }
 
         Moment momentAt(int year) {
-            return moments[doneUpTo(year)];
+            return momentBehind(doneUpTo(year));
+        }
+
+        /** What stands when so many acts are done. The number is tested here, so that no caller need prove it. */
+        private Moment momentBehind(int done) {
+            return moments[done >= 0 && done <= MOST_ACTS ? done : 0];
         }
 
         Act actAt(int place) {
-            return acts[hasAct(place) ? order[place] : 0];
+            int number = hasAct(place) ? order[place] : 0;
+            return acts[hasAct(number) ? number : 0];
         }
 
         long heldAt(int unit, int year) {
@@ -837,11 +843,11 @@ public final class ShireLines {
 
         int makerOfBorder(int cell, int other, int year) {
             int done = doneUpTo(year);
-            if (!moments[done].hasBorder(cell, other)) {
+            if (!momentBehind(done).hasBorder(cell, other)) {
                 return NOTHING;
             }
             for (int place = done - 1; place >= 0; place--) {
-                if (!moments[place].hasBorder(cell, other)) {
+                if (!momentBehind(place).hasBorder(cell, other)) {
                     return order[place];
                 }
             }

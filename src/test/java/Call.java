@@ -42,7 +42,12 @@ final class Call {
         return word.equals("true") ? 1 : word.equals("false") ? 0 : Long.decode(word);
     }
 
-    private static boolean takesSet(int name) {
+    /** How many numbers the call takes, the set of cells not counted. */
+    static int takes(int name) {
+        return TAKES[name];
+    }
+
+    static boolean takesSet(int name) {
         return name == FOUND || name == MOVE;
     }
 

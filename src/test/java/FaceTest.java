@@ -5,7 +5,9 @@ import java.lang.reflect.Method;
 import java.lang.reflect.Modifier;
 import java.nio.file.Files;
 import java.nio.file.Path;
+import java.util.ArrayList;
 import java.util.Arrays;
+import java.util.List;
 import java.util.Set;
 import java.util.TreeSet;
 import java.util.regex.Matcher;
@@ -26,6 +28,10 @@ public final class FaceTest {
         "\\bpackage\\b", "\\w+Exact\\b", "\\bThread\\b", "\\bRandom\\b", "\\bcurrentTimeMillis\\b", "\\bnanoTime\\b",
         "\\bprotected\\b", "\\bhashCode\\b", "\\btoString\\b", "\\bstatic\\s*\\{"};
 
+    /** What the interface says ahead of some calls, and the first call behind it. */
+    private static final String[][] HEADINGS = {
+        {"units, acts", "unit"}, {"at a year", "who"}, {"maps", "map"}, {"counts", "count"}, {"sheets", "sheet"}};
+
     private static final Due DUE = new Due();
 
     public static void main(String[] args) throws IOException {
@@ -33,7 +39,9 @@ public final class FaceTest {
         nothingElseIsSeen();
         noPrivateMethodBearsAPublicName();
         staticFieldsAreFinal();
-        text(Files.readString(Path.of(System.getProperty("shirelines.source"))));
+        String source = Files.readString(Path.of(System.getProperty("shirelines.source")));
+        text(source);
+        callsInOrderUnderHeadings(source);
         DUE.end();
     }
 
@@ -103,6 +111,26 @@ public final class FaceTest {
         Class<?>[] all = Arrays.copyOf(inside, inside.length + 1);
         all[inside.length] = ShireLines.class;
         return all;
+    }
+
+    /** The calls stand in the document's order, and ahead of some of them what the interface says there. */
+    private static void callsInOrderUnderHeadings(String source) {
+        List<String> want = new ArrayList<>();
+        for (String method : FACE) {
+            String name = method.substring(0, method.indexOf('('));
+            for (String[] heading : HEADINGS) {
+                if (heading[1].equals(name)) {
+                    want.add("---- " + heading[0]);
+                }
+            }
+            want.add(name);
+        }
+        List<String> seen = new ArrayList<>();
+        Matcher found = Pattern.compile("// (---- .+)|public long (\\w+)\\(").matcher(source);
+        while (found.find() && seen.size() < want.size()) {
+            seen.add(found.group(1) != null ? found.group(1) : found.group(2));
+        }
+        DUE.isTrue("the calls in order under their headings, seen " + seen, seen.equals(want));
     }
 
     private static void text(String source) {
